@@ -310,15 +310,11 @@ public final class TypeKernel {
      * is 0, so the size can be read off, and levels that are made alike are equal numbers.
      */
     private static final class Code {
-        static final long TOO_LARGE = -1;
+        static final long TOO_LARGE = -1, OF_ZERO = ZERO + 1;
         private static final int BITS = 3, MASK = 7;
         private static final int FIRST_PARAMETER = PARAMETER + 1;
 
         private Code() {
-        }
-
-        static long ofZero() {
-            return ZERO + 1;
         }
 
         static long ofParameter(int parameter) {
@@ -379,7 +375,7 @@ public final class TypeKernel {
         }
 
         static boolean hasParameterFrom(long code, int parameters) {
-            for (int i = 0; i < LARGEST_LEVEL; i++) {
+            for (int i = 0; i < LARGEST_LEVEL && code >>> BITS * i != 0; i++) {
                 if (markAt(code, i) >= FIRST_PARAMETER + parameters) {
                     return true;
                 }
@@ -391,7 +387,7 @@ public final class TypeKernel {
         static long withLevels(long code, long first, long second) {
             long made = 0;
             int madeSize = 0;
-            for (int i = 0; i < LARGEST_LEVEL; i++) {
+            for (int i = 0; i < LARGEST_LEVEL && code >>> BITS * i != 0; i++) {
                 long mark = code >>> BITS * i & MASK;
                 long piece = mark == FIRST_PARAMETER ? first : mark == FIRST_PARAMETER + 1 ? second : mark;
                 for (int j = 0; j < LARGEST_LEVEL && piece >>> BITS * j != 0; j++) {
@@ -424,14 +420,14 @@ public final class TypeKernel {
             one = new int[MOST_LEVELS];
             two = new int[MOST_LEVELS];
             stack = new int[LARGEST_LEVEL];
-            code[0] = Code.ofZero();
+            code[0] = Code.OF_ZERO;
             one[0] = NONE;
             two[0] = NONE;
             count = 1;
         }
 
         long codeOf(int number) {
-            return number >= 0 && number < count ? code[number] : Code.ofZero();
+            return number >= 0 && number < count ? code[number] : Code.OF_ZERO;
         }
 
         private int find(long wanted) {
@@ -549,7 +545,7 @@ public final class TypeKernel {
         final int[] kind;
         /** A variable's or a name's number; 0 for others. */
         final int[] index;
-        /** How many binders of this row are around a mark. */
+        /** How many binders of this row are around a mark; a variable with that number or more is from outside. */
         final int[] depth;
         /** A sort's level, or a name's two; 0 for others. */
         final long[] first;
@@ -569,11 +565,6 @@ public final class TypeKernel {
 
         int kindAt(int p) {
             return p >= 0 && p < size ? kind[p] : NONE;
-        }
-
-        /** How far outside this row a variable's binder is (0 the next one); below 0 for all else. */
-        private int outward(int p) {
-            return kind[p] == VARIABLE ? index[p] - depth[p] : NONE;
         }
 
         void add(int itsKind, int itsIndex, int itsDepth, long itsFirst, long itsSecond) {
@@ -637,19 +628,21 @@ public final class TypeKernel {
             }
         }
 
+        /** How often the variable of the next binder outside is in this row. */
         int countNextOuter() {
             int found = 0;
             for (int p = 0; p < size; p++) {
-                if (outward(p) == 0) {
+                if (kind[p] == VARIABLE && index[p] == depth[p]) {
                     found++;
                 }
             }
             return found;
         }
 
+        /** Counts more binders (or less) for the variables from outside. */
         void raise(int by) {
             for (int p = 0; p < size; p++) {
-                if (outward(p) >= 0) {
+                if (kind[p] == VARIABLE && index[p] >= depth[p]) {
                     index[p] += by;
                 }
             }
@@ -662,11 +655,11 @@ public final class TypeKernel {
                 return false;
             }
             for (int p = 0; p < body.size; p++) {
-                if (body.outward(p) != 0) {
+                int around = body.depth[p];
+                if (body.kind[p] != VARIABLE || body.index[p] != around) {
                     copyMark(body, p, 0, -1);
                     continue;
                 }
-                int around = body.depth[p];
                 for (int q = 0; q < value.size; q++) {
                     copyMark(value, q, around, around);
                 }
@@ -725,7 +718,7 @@ public final class TypeKernel {
             return false;
         }
 
-        /** Whether a part of this row and the whole of another one are the same but for alike levels. */
+        /** Whether a part of this row and the whole of another one are alike but for levels, which are the same. */
         boolean matches(int from, int to, Row other, Levels levels) {
             if (from < 0 || to > size || to - from != other.size) {
                 return false;

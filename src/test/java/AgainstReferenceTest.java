@@ -167,6 +167,8 @@ public final class AgainstReferenceTest {
             drawTerm();
         } else if (what < 68) {
             drawDeclaration();
+        } else if (what < 74) {
+            drawGrowth();
         } else if (what < 95) {
             drawQuestion();
         } else if (what < 99) {
@@ -231,6 +233,24 @@ public final class AgainstReferenceTest {
             case 6: case 7: call(9, t); break;
             default: call(8, t); break;
         }
+    }
+
+    /** Copies of copies, and levels on levels: what comes to the bounds of sizes. */
+    private void drawGrowth() {
+        if (kernel.told(1) == 0) return;
+        if (below(3) == 0) {
+            int t = call(3, anyLevel());
+            for (int k = 0; k < 3 && t >= 0; k++) t = call(8, below(2) == 0 ? t : Math.max(0, call(6, 3, t, anyTerm())));
+            return;
+        }
+        int v0 = call(4, 0), v1 = call(4, 1), some = anyTerm();
+        int body = below(2) == 0 ? call(6, 5, v0, v0) : call(6, 3 + below(2), v0, call(6, 5, v1, v1));
+        if (body >= 0 && below(2) == 0) body = call(6, 5, body, body);
+        int made = body < 0 ? body : below(2) == 0 ? call(7, anyTerm(), some, body) : call(6, 5, call(6, 4, v0, body), some);
+        if (made < 0) return;
+        int normal = call(9, made);
+        call(10, made);
+        if (normal >= 0 && below(2) == 0) call(12, 2, normal, -1);
     }
 
     private int odd() {
