@@ -2,14 +2,12 @@ import java.util.Random;
 import java.util.TreeMap;
 
 /**
- * Runs of calls that are drawn with fixed seeds, half of them aimed at terms that have a type, asked
+ * Promises 1 to 19: runs of calls that are drawn with fixed seeds, half of them aimed at terms that have a type, asked
  * of TypeKernel and of Reference alike: every answer and every exception has to be the same, and in
  * the end all that can be asked about the state.
  */
 public final class AgainstReferenceTest {
     private static final int RUNS = 1200, CALLS = 420;
-    private static final String[] METHODS = {"level", "atMost", "value", "sort", "variable", "name", "term", "let",
-        "type", "normal", "steps", "same", "declare", "part", "levelPart", "declared", "told", "clear"};
 
     private final Random random;
     private final int run;
@@ -50,29 +48,6 @@ public final class AgainstReferenceTest {
         return wrong;
     }
 
-    private static int ask(TypeKernel x, int method, int[] a) {
-        switch (method) {
-            case 0: return x.level(a[0], a[1], a[2]);
-            case 1: return x.atMost(a[0], a[1]) ? 1 : 0;
-            case 2: return x.value(a[0], a[1], a[2], a[3]);
-            case 3: return x.sort(a[0]);
-            case 4: return x.variable(a[0]);
-            case 5: return x.name(a[0], a[1], a[2]);
-            case 6: return x.term(a[0], a[1], a[2]);
-            case 7: return x.let(a[0], a[1], a[2]);
-            case 8: return x.type(a[0]);
-            case 9: return x.normal(a[0]);
-            case 10: return x.steps(a[0]);
-            case 11: return x.same(a[0], a[1]);
-            case 12: return x.declare(a[0], a[1], a[2]);
-            case 13: return x.part(a[0], a[1]);
-            case 14: return x.levelPart(a[0], a[1]);
-            case 15: return x.declared(a[0], a[1]);
-            case 16: return x.told(a[0]);
-            default: x.clear(); return 0;
-        }
-    }
-
     private static int ask(Reference x, int method, int[] a) {
         switch (method) {
             case 0: return x.level(a[0], a[1], a[2]);
@@ -101,7 +76,7 @@ public final class AgainstReferenceTest {
         String got, due;
         int answer = Reference.NONE;
         try {
-            got = String.valueOf(ask(kernel, method, arguments));
+            got = String.valueOf(Counted.answer(kernel, method, arguments));
         } catch (RuntimeException e) {
             got = e.getClass().getSimpleName();
         }
@@ -113,12 +88,12 @@ public final class AgainstReferenceTest {
         }
         if (!got.equals(due)) {
             wrong++;
-            System.out.println("run " + run + ": " + METHODS[method] + java.util.Arrays.toString(arguments)
+            System.out.println("run " + run + ": " + Counted.METHODS[method] + java.util.Arrays.toString(arguments)
                 + " answered " + got + ", due is " + due);
         }
         boolean number = method == 8 || method == 9 || method == 12;
         String kind = number && answer >= 0 ? "+" : number || method >= 10 && method <= 11 ? due : "";
-        if (!kind.isEmpty()) seen.merge(METHODS[method] + " " + kind, 1, Integer::sum);
+        if (!kind.isEmpty()) seen.merge(Counted.METHODS[method] + " " + kind, 1, Integer::sum);
         return answer;
     }
 

@@ -8,7 +8,7 @@ import java.util.Arrays;
 import java.util.List;
 import java.util.TreeSet;
 
-/** The public face as the document writes it, and nothing beside it that is not private. */
+/** Promises 1 to 19: the public face as the document writes it, and nothing beside it that is not private. */
 public final class FaceTest {
     private static final String IAE = "IllegalArgumentException", IOO = "IndexOutOfBoundsException",
         UOE = "UnsupportedOperationException";

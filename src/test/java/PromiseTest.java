@@ -1,18 +1,5 @@
-/** Each promise of the document: ordinary inputs, the edges that it names, and wrong inputs. */
-public final class PromiseTest {
-    private static final int NONE = TypeKernel.NONE, OUT = TypeKernel.OUT;
-    private static final int ZERO = TypeKernel.ZERO, UP = TypeKernel.UP, MAX = TypeKernel.MAX, IMAX = TypeKernel.IMAX,
-        PARAMETER = TypeKernel.PARAMETER;
-    private static final int SORT = TypeKernel.SORT, VARIABLE = TypeKernel.VARIABLE, NAME = TypeKernel.NAME,
-        PI = TypeKernel.PI, LAMBDA = TypeKernel.LAMBDA, APPLY = TypeKernel.APPLY, LET = TypeKernel.LET;
-    private static final Class<?> ARGUMENT = IllegalArgumentException.class, INDEX = IndexOutOfBoundsException.class,
-        TOO_MANY = UnsupportedOperationException.class;
-    private static int passed, failed;
-
-    private interface Call {
-        void run();
-    }
-
+/** Each promise of the document: ordinary inputs, some edges, and wrong inputs. A remark at each test names its promise. */
+public final class PromiseTest extends Bench {
     public static void main(String[] args) {
         newObject();
         level();
@@ -45,71 +32,12 @@ public final class PromiseTest {
         fullTerms();
         clear();
         deepTerms();
-        System.out.println(passed + " passed, " + failed + " failed");
-        if (failed > 0) System.exit(1);
+        finish();
     }
 
-    private static void due(String what, long got, long want) {
-        if (got == want) {
-            passed++;
-            return;
-        }
-        failed++;
-        System.out.println(what + " answered " + got + ", due is " + want);
-    }
-
-    private static void due(String what, boolean got, boolean want) {
-        due(what, got ? 1 : 0, want ? 1 : 0);
-    }
-
-    /** The call throws just this, and nothing is there that was not, nor gone. */
-    private static void throwing(String what, TypeKernel x, Class<?> wanted, Call call) {
-        int[] before = {x.told(0), x.told(1), x.told(2)};
-        Class<?> got = null;
-        try {
-            call.run();
-        } catch (RuntimeException e) {
-            got = e.getClass();
-        }
-        due(what + " throws " + wanted.getSimpleName() + ", not " + got, got == wanted, true);
-        for (int k = 0; k < 3; k++) due(what + ": told(" + k + ") behind it", x.told(k), before[k]);
-    }
-
-    /** A world with N : SORT 1, z : N, s : N to N, and a sort of each level that is wanted. */
-    private static final class World {
-        final TypeKernel x = new TypeKernel();
-        final int one = x.level(UP, 0, 0), p0 = x.level(PARAMETER, 0, 0), p1 = x.level(PARAMETER, 1, 0);
-        final int prop = x.sort(0), set = x.sort(one), sortP = x.sort(p0);
-        final int n = axiom(0, set), z = axiom(0, n), nn = pi(n, n), s = axiom(0, nn);
-        final int v0 = x.variable(0), v1 = x.variable(1), v2 = x.variable(2);
-
-        int axiom(int parameters, int type) {
-            return x.name(x.declare(parameters, type, NONE), 0, 0);
-        }
-
-        int define(int parameters, int type, int v) {
-            return x.name(x.declare(parameters, type, v), 0, 0);
-        }
-
-        int pi(int a, int b) {
-            return x.term(PI, a, b);
-        }
-
-        int fn(int a, int b) {
-            return x.term(LAMBDA, a, b);
-        }
-
-        int app(int f, int a) {
-            return x.term(APPLY, f, a);
-        }
-
-        int app(int f, int a, int b) {
-            return app(app(f, a), b);
-        }
-    }
-
+    // Promises 1 and 18.
     private static void newObject() {
-        TypeKernel x = new TypeKernel();
+        Counted x = new Counted();
         due("levels at first", x.told(0), 1);
         due("terms at first", x.told(1), 0);
         due("names at first", x.told(2), 0);
@@ -120,17 +48,18 @@ public final class PromiseTest {
         due("part 1 of ZERO", x.levelPart(0, 1), NONE);
         due("part 2 of ZERO", x.levelPart(0, 2), NONE);
         due("size of ZERO", x.levelPart(0, 3), 1);
-        throwing("part(0, 0)", x, INDEX, () -> x.part(0, 0));
-        throwing("declared(0, 0)", x, INDEX, () -> x.declared(0, 0));
-        throwing("levelPart(1, 0)", x, INDEX, () -> x.levelPart(1, 0));
-        TypeKernel other = new TypeKernel();
+        refused("part(0, 0)", x, INDEX, () -> x.part(0, 0));
+        refused("declared(0, 0)", x, INDEX, () -> x.declared(0, 0));
+        refused("levelPart(1, 0)", x, INDEX, () -> x.levelPart(1, 0));
+        Counted other = new Counted();
         x.sort(x.level(UP, 0, 0));
         due("levels of another object", other.told(0), 1);
         due("terms of another object", other.told(1), 0);
     }
 
+    // Promises 2 and 16.
     private static void level() {
-        TypeKernel x = new TypeKernel();
+        Counted x = new Counted();
         due("UP 0", x.level(UP, 0, 77), 1);
         due("PARAMETER 0", x.level(PARAMETER, 0, -5), 2);
         due("PARAMETER 2", x.level(PARAMETER, 2, 0), 3);
@@ -149,46 +78,48 @@ public final class PromiseTest {
             for (int k = 0; k < 4; k++) due("levelPart(" + l + ", " + k + ")", x.levelPart(l, k), parts[l][k]);
         }
         for (int kind : new int[] {ZERO, -1, 5, Integer.MIN_VALUE}) {
-            throwing("level of kind " + kind, x, ARGUMENT, () -> x.level(kind, 0, 0));
-            throwing("level of kind " + kind + " of no level", x, ARGUMENT, () -> x.level(kind, 99, 99));
+            refused("level of kind " + kind, x, ARGUMENT, () -> x.level(kind, 0, 0));
+            refused("level of kind " + kind + " of no level", x, ARGUMENT, () -> x.level(kind, 99, 99));
         }
         for (int a : new int[] {-1, 3, Integer.MAX_VALUE}) {
-            throwing("PARAMETER " + a, x, ARGUMENT, () -> x.level(PARAMETER, a, 0));
+            refused("PARAMETER " + a, x, ARGUMENT, () -> x.level(PARAMETER, a, 0));
         }
         for (int a : new int[] {-1, 9, Integer.MAX_VALUE, Integer.MIN_VALUE}) {
-            throwing("UP of level " + a, x, INDEX, () -> x.level(UP, a, 0));
+            refused("UP of level " + a, x, INDEX, () -> x.level(UP, a, 0));
             for (int kind : new int[] {MAX, IMAX}) {
-                throwing("kind " + kind + " of " + a + ", 0", x, INDEX, () -> x.level(kind, a, 0));
-                throwing("kind " + kind + " of 0, " + a, x, INDEX, () -> x.level(kind, 0, a));
+                refused("kind " + kind + " of " + a + ", 0", x, INDEX, () -> x.level(kind, a, 0));
+                refused("kind " + kind + " of 0, " + a, x, INDEX, () -> x.level(kind, 0, a));
             }
-            throwing("levelPart(" + a + ", 0)", x, INDEX, () -> x.levelPart(a, 0));
-            throwing("levelPart(" + a + ", 9)", x, INDEX, () -> x.levelPart(a, 9));
+            refused("levelPart(" + a + ", 0)", x, INDEX, () -> x.levelPart(a, 0));
+            refused("levelPart(" + a + ", 9)", x, INDEX, () -> x.levelPart(a, 9));
         }
-        throwing("levelPart(0, 4)", x, ARGUMENT, () -> x.levelPart(0, 4));
-        throwing("levelPart(0, -1)", x, ARGUMENT, () -> x.levelPart(0, -1));
+        refused("levelPart(0, 4)", x, ARGUMENT, () -> x.levelPart(0, 4));
+        refused("levelPart(0, -1)", x, ARGUMENT, () -> x.levelPart(0, -1));
     }
 
+    // Promise 2: sizes of levels.
     private static void levelBounds() {
-        TypeKernel x = new TypeKernel();
+        Counted x = new Counted();
         int l = 0;
         for (int size = 2; size <= 8; size++) l = x.level(UP, l, 0);
         int eight = l;
         due("size", x.levelPart(eight, 3), 8);
-        throwing("a level of size 9", x, TOO_MANY, () -> x.level(UP, eight, 0));
+        refused("a level of size 9", x, TOO_MANY, () -> x.level(UP, eight, 0));
         int seven = x.levelPart(eight, 1);
-        throwing("MAX of sizes 7 and 1", x, TOO_MANY, () -> x.level(MAX, seven, 0));
-        throwing("IMAX of sizes 8 and 8", x, TOO_MANY, () -> x.level(IMAX, eight, eight));
-        throwing("MAX of size 8 and no level", x, INDEX, () -> x.level(MAX, eight, 99));
+        refused("MAX of sizes 7 and 1", x, TOO_MANY, () -> x.level(MAX, seven, 0));
+        refused("IMAX of sizes 8 and 8", x, TOO_MANY, () -> x.level(IMAX, eight, eight));
+        refused("MAX of size 8 and no level", x, INDEX, () -> x.level(MAX, eight, 99));
         int six = x.levelPart(seven, 1);
         due("MAX of sizes 6 and 1", x.levelPart(x.level(MAX, six, 0), 3), 8);
         int nine = x.part(x.type(x.sort(eight)), 1);
         due("an answer's level", x.levelPart(nine, 3), 9);
-        throwing("a level of size 9 that is there", x, TOO_MANY, () -> x.level(UP, eight, 0));
+        refused("a level of size 9 that is there", x, TOO_MANY, () -> x.level(UP, eight, 0));
         due("SORT of that", x.part(x.sort(nine), 1), nine);
     }
 
+    // Promise 3.
     private static void atMost() {
-        TypeKernel x = new TypeKernel();
+        Counted x = new Counted();
         int one = x.level(UP, 0, 0), two = x.level(UP, one, 0);
         int p = x.level(PARAMETER, 0, 0), q = x.level(PARAMETER, 1, 0), r = x.level(PARAMETER, 2, 0);
         int upP = x.level(UP, p, 0), maxPQ = x.level(MAX, p, q), maxQP = x.level(MAX, q, p), imaxPQ = x.level(IMAX, p, q);
@@ -226,13 +157,14 @@ public final class PromiseTest {
         due("p + 7 at most MAX q (p + 6)", x.atMost(far, x.level(MAX, q, x.levelPart(x.levelPart(far, 1), 1))), false);
         due("MAX q (p + 5) at most MAX q (p + 5)", x.atMost(x.levelPart(far, 1), far), true);
         for (int a : new int[] {-1, x.told(0), Integer.MAX_VALUE}) {
-            throwing("atMost(" + a + ", 0)", x, INDEX, () -> x.atMost(a, 0));
-            throwing("atMost(0, " + a + ")", x, INDEX, () -> x.atMost(0, a));
+            refused("atMost(" + a + ", 0)", x, INDEX, () -> x.atMost(a, 0));
+            refused("atMost(0, " + a + ")", x, INDEX, () -> x.atMost(0, a));
         }
     }
 
+    // Promise 4.
     private static void value() {
-        TypeKernel x = new TypeKernel();
+        Counted x = new Counted();
         int p = x.level(PARAMETER, 0, 0), q = x.level(PARAMETER, 1, 0), r = x.level(PARAMETER, 2, 0);
         int upR = x.level(UP, r, 0), max = x.level(MAX, p, upR), imax = x.level(IMAX, p, q);
         due("ZERO", x.value(0, 5, 6, 7), 0);
@@ -248,17 +180,18 @@ public final class PromiseTest {
         due("IMAX p (IMAX q r), r 0", x.value(x.level(IMAX, p, x.level(IMAX, q, r)), 4, 5, 0), 0);
         due("IMAX (IMAX q r) p, r 0", x.value(x.level(IMAX, x.level(IMAX, q, r), p), 4, 5, 0), 4);
         for (int bad : new int[] {-1, 1001, Integer.MIN_VALUE, Integer.MAX_VALUE}) {
-            throwing("value, p " + bad, x, ARGUMENT, () -> x.value(0, bad, 0, 0));
-            throwing("value, q " + bad, x, ARGUMENT, () -> x.value(0, 0, bad, 0));
-            throwing("value, r " + bad, x, ARGUMENT, () -> x.value(0, 0, 0, bad));
-            throwing("value of no level, p " + bad, x, INDEX, () -> x.value(99, bad, 0, 0));
+            refused("value, p " + bad, x, ARGUMENT, () -> x.value(0, bad, 0, 0));
+            refused("value, q " + bad, x, ARGUMENT, () -> x.value(0, 0, bad, 0));
+            refused("value, r " + bad, x, ARGUMENT, () -> x.value(0, 0, 0, bad));
+            refused("value of no level, p " + bad, x, INDEX, () -> x.value(99, bad, 0, 0));
         }
-        throwing("value of level -1", x, INDEX, () -> x.value(-1, 0, 0, 0));
-        throwing("value of a level that is not there", x, INDEX, () -> x.value(x.told(0), 0, 0, 0));
+        refused("value of level -1", x, INDEX, () -> x.value(-1, 0, 0, 0));
+        refused("value of a level that is not there", x, INDEX, () -> x.value(x.told(0), 0, 0, 0));
     }
 
+    // Promises 5, 6, 7 and 15.
     private static void leaves() {
-        TypeKernel x = new TypeKernel();
+        Counted x = new Counted();
         due("SORT 0", x.sort(0), 0);
         due("VARIABLE 59", x.variable(59), 1);
         due("VARIABLE 0", x.variable(0), 2);
@@ -266,30 +199,31 @@ public final class PromiseTest {
         due("VARIABLE 0 again", x.variable(0), 2);
         int one = x.level(UP, 0, 0);
         due("SORT 1", x.sort(one), 3);
-        for (int l : new int[] {-1, 2, Integer.MAX_VALUE}) throwing("sort(" + l + ")", x, INDEX, () -> x.sort(l));
-        for (int i : new int[] {-1, 60, Integer.MAX_VALUE}) throwing("variable(" + i + ")", x, ARGUMENT, () -> x.variable(i));
-        throwing("NAME 0, which is not there", x, INDEX, () -> x.name(0, 0, 0));
+        for (int l : new int[] {-1, 2, Integer.MAX_VALUE}) refused("sort(" + l + ")", x, INDEX, () -> x.sort(l));
+        for (int i : new int[] {-1, 60, Integer.MAX_VALUE}) refused("variable(" + i + ")", x, ARGUMENT, () -> x.variable(i));
+        refused("NAME 0, which is not there", x, INDEX, () -> x.name(0, 0, 0));
         x.declare(0, 0, NONE);
         due("NAME 0 0 1", x.name(0, 0, one), 4);
         due("NAME 0 1 0", x.name(0, one, 0), 5);
         due("NAME 0 0 1 again", x.name(0, 0, one), 4);
-        throwing("NAME -1", x, INDEX, () -> x.name(-1, 0, 0));
-        throwing("NAME 1", x, INDEX, () -> x.name(1, 0, 0));
-        throwing("NAME with no first level", x, INDEX, () -> x.name(0, 2, 0));
-        throwing("NAME with no second level", x, INDEX, () -> x.name(0, 0, -1));
+        refused("NAME -1", x, INDEX, () -> x.name(-1, 0, 0));
+        refused("NAME 1", x, INDEX, () -> x.name(1, 0, 0));
+        refused("NAME with no first level", x, INDEX, () -> x.name(0, 2, 0));
+        refused("NAME with no second level", x, INDEX, () -> x.name(0, 0, -1));
         int[][] parts = {{SORT, 0, NONE, NONE, 1, 0}, {VARIABLE, 59, NONE, NONE, 1, 60}, {VARIABLE, 0, NONE, NONE, 1, 1},
             {SORT, one, NONE, NONE, 1, 0}, {NAME, 0, 0, one, 1, 0}, {NAME, 0, one, 0, 1, 0}};
         checkParts(x, parts);
     }
 
-    private static void checkParts(TypeKernel x, int[][] parts) {
+    private static void checkParts(Counted x, int[][] parts) {
         for (int t = 0; t < parts.length; t++) {
             for (int k = 0; k < 6; k++) due("part(" + t + ", " + k + ")", x.part(t, k), parts[t][k]);
         }
     }
 
+    // Promises 8 and 15.
     private static void term() {
-        TypeKernel x = new TypeKernel();
+        Counted x = new Counted();
         int s = x.sort(0), v0 = x.variable(0), v3 = x.variable(3);
         due("PI", x.term(PI, v0, v3), 3);
         due("LAMBDA", x.term(LAMBDA, s, v0), 4);
@@ -302,18 +236,19 @@ public final class PromiseTest {
             {PI, v0, v3, NONE, 3, 3}, {LAMBDA, s, v0, NONE, 3, 0}, {APPLY, v0, v3, NONE, 3, 4}, {APPLY, v3, v0, NONE, 3, 4},
             {LAMBDA, v0, 4, NONE, 5, 1}, {PI, v0, v0, NONE, 3, 1}});
         for (int kind : new int[] {SORT, VARIABLE, NAME, LET, -1, 7, Integer.MAX_VALUE}) {
-            throwing("term of kind " + kind, x, ARGUMENT, () -> x.term(kind, s, s));
-            throwing("term of kind " + kind + " of no terms", x, ARGUMENT, () -> x.term(kind, 99, -1));
+            refused("term of kind " + kind, x, ARGUMENT, () -> x.term(kind, s, s));
+            refused("term of kind " + kind + " of no terms", x, ARGUMENT, () -> x.term(kind, 99, -1));
         }
         for (int kind = PI; kind <= APPLY; kind++) {
             int k = kind;
-            throwing("term of kind " + kind + " of -1", x, INDEX, () -> x.term(k, -1, s));
-            throwing("term of kind " + kind + " of none", x, INDEX, () -> x.term(k, s, 9));
+            refused("term of kind " + kind + " of -1", x, INDEX, () -> x.term(k, -1, s));
+            refused("term of kind " + kind + " of none", x, INDEX, () -> x.term(k, s, 9));
         }
     }
 
+    // Promises 9 and 15.
     private static void let() {
-        TypeKernel x = new TypeKernel();
+        Counted x = new Counted();
         int s = x.sort(0), v0 = x.variable(0), v3 = x.variable(3), v5 = x.variable(5);
         due("LET", x.let(s, v0, v3), 4);
         due("LET, the binder farthest", x.let(v5, v3, v0), 5);
@@ -323,26 +258,27 @@ public final class PromiseTest {
         checkParts(x, new int[][] {{SORT, 0, NONE, NONE, 1, 0}, {VARIABLE, 0, NONE, NONE, 1, 1}, {VARIABLE, 3, NONE, NONE, 1, 4},
             {VARIABLE, 5, NONE, NONE, 1, 6}, {LET, s, v0, v3, 4, 3}, {LET, v5, v3, v0, 4, 6}, {LET, s, v5, v5, 4, 6},
             {LET, s, s, v0, 4, 0}});
-        throwing("LET of no type", x, INDEX, () -> x.let(-1, s, s));
-        throwing("LET of no value", x, INDEX, () -> x.let(s, 8, s));
-        throwing("LET of no body", x, INDEX, () -> x.let(s, s, Integer.MAX_VALUE));
+        refused("LET of no type", x, INDEX, () -> x.let(-1, s, s));
+        refused("LET of no value", x, INDEX, () -> x.let(s, 8, s));
+        refused("LET of no body", x, INDEX, () -> x.let(s, s, Integer.MAX_VALUE));
         for (int what : new int[] {-1, 6, Integer.MAX_VALUE}) {
-            throwing("part(0, " + what + ")", x, ARGUMENT, () -> x.part(0, what));
-            throwing("part(99, " + what + ")", x, INDEX, () -> x.part(99, what));
+            refused("part(0, " + what + ")", x, ARGUMENT, () -> x.part(0, what));
+            refused("part(99, " + what + ")", x, INDEX, () -> x.part(99, what));
         }
-        throwing("part(-1, 0)", x, INDEX, () -> x.part(-1, 0));
+        refused("part(-1, 0)", x, INDEX, () -> x.part(-1, 0));
     }
 
+    // Promises 8 and 9: sizes of terms.
     private static void termBounds() {
-        TypeKernel x = new TypeKernel();
+        Counted x = new Counted();
         int s = x.sort(0), t = s;
         for (int size = 3; size <= 59; size += 2) t = x.term(PI, s, t);
         int large = t;
         due("its size", x.part(large, 4), 59);
-        throwing("a term of size 61", x, TOO_MANY, () -> x.term(PI, s, large));
-        throwing("a term of size 119", x, TOO_MANY, () -> x.term(APPLY, large, large));
-        throwing("LET of size 62", x, TOO_MANY, () -> x.let(s, s, large));
-        throwing("an APPLY of a large one and none", x, INDEX, () -> x.term(APPLY, large, -1));
+        refused("a term of size 61", x, TOO_MANY, () -> x.term(PI, s, large));
+        refused("a term of size 119", x, TOO_MANY, () -> x.term(APPLY, large, large));
+        refused("LET of size 62", x, TOO_MANY, () -> x.let(s, s, large));
+        refused("an APPLY of a large one and none", x, INDEX, () -> x.term(APPLY, large, -1));
         int middle = x.part(x.part(large, 2), 2);
         due("size", x.part(middle, 4), 55);
         due("LET of size 58", x.part(x.let(s, s, middle), 4), 58);
@@ -350,12 +286,13 @@ public final class PromiseTest {
         int doubled = x.normal(x.let(s, x.part(x.part(middle, 2), 2), x.term(APPLY, x.variable(0), x.variable(0))));
         due("an answer's size", x.part(doubled, 4), 103);
         int half = x.part(doubled, 1);
-        throwing("a large term that is there", x, TOO_MANY, () -> x.term(APPLY, half, half));
+        refused("a large term that is there", x, TOO_MANY, () -> x.term(APPLY, half, half));
     }
 
+    // Promise 10: SORT, VARIABLE and NAME.
     private static void typeOfLeaves() {
         World w = new World();
-        TypeKernel x = w.x;
+        Counted x = w.x;
         due("type of SORT 0", x.type(w.prop), w.set);
         int level = x.part(x.type(w.sortP), 1);
         due("type of SORT p is SORT (UP p)", x.levelPart(level, 0), UP);
@@ -370,13 +307,14 @@ public final class PromiseTest {
         due("its second", x.levelPart(x.part(type, 1), 2), w.one);
         int swapped = x.type(x.name(poly, w.p1, w.p0));
         due("both levels at once", x.part(swapped, 1), x.level(MAX, w.p1, w.p0));
-        throwing("type(-1)", x, INDEX, () -> x.type(-1));
-        throwing("type of none", x, INDEX, () -> x.type(x.told(1)));
+        refused("type(-1)", x, INDEX, () -> x.type(-1));
+        refused("type of none", x, INDEX, () -> x.type(x.told(1)));
     }
 
+    // Promise 10: PI and LAMBDA.
     private static void typeOfBinders() {
         World w = new World();
-        TypeKernel x = w.x;
+        Counted x = w.x;
         due("type of N to N", x.type(w.nn), x.sort(x.level(IMAX, w.one, w.one)));
         int upP = x.level(UP, w.p0, 0);
         int idType = w.pi(w.sortP, w.pi(w.v0, w.v1)), id = w.fn(w.sortP, w.fn(w.v0, w.v0));
@@ -397,9 +335,10 @@ public final class PromiseTest {
         due("a sort by steps", x.type(w.fn(w.app(w.fn(w.set, w.v0), w.n), w.z)), w.pi(w.app(w.fn(w.set, w.v0), w.n), w.n));
     }
 
+    // Promise 10: APPLY.
     private static void typeOfApply() {
         World w = new World();
-        TypeKernel x = w.x;
+        Counted x = w.x;
         due("type of s z", x.type(w.app(w.s, w.z)), w.n);
         due("z z", x.type(w.app(w.z, w.z)), -3);
         due("s s", x.type(w.app(w.s, w.s)), -4);
@@ -427,9 +366,10 @@ public final class PromiseTest {
         due("levels that are not the SAME", x.type(w.app(f2, w.prop)), -4);
     }
 
+    // Promise 10: LET.
     private static void typeOfLet() {
         World w = new World();
-        TypeKernel x = w.x;
+        Counted x = w.x;
         due("LET", x.type(x.let(w.n, w.z, w.app(w.s, w.v0))), w.n);
         due("LET with another's value", x.type(x.let(w.n, w.s, w.v0)), -7);
         due("LET of no sort", x.type(x.let(w.z, w.z, w.v0)), -5);
@@ -445,9 +385,10 @@ public final class PromiseTest {
         due("LET, SAME but for levels", x.type(x.let(x.sort(x.level(UP, upToP, 0)), w.sortP, w.z)), w.n);
     }
 
+    // Promise 10: the first reason that is met.
     private static void typeReasonsInOrder() {
         World w = new World();
-        TypeKernel x = w.x;
+        Counted x = w.x;
         int one = w.v0, two = w.app(w.z, w.z), three = w.app(w.s, w.s), four = w.fn(w.z, w.z), six = x.let(w.n, w.s, w.v0);
         int[] bad = {one, two, three, four, six};
         int[] due = {-2, -3, -4, -5, -7};
@@ -469,16 +410,10 @@ public final class PromiseTest {
         due("b alone", x.type(x.let(w.n, w.z, two)), -3);
     }
 
-    /** A name with a value that takes so many steps: names that stand for names. */
-    private static int chain(World w, int type, int end, int steps) {
-        int t = end;
-        for (int k = 0; k < steps; k++) t = w.define(0, type, t);
-        return t;
-    }
-
+    // Promise 10: reason 5.
     private static void typeTooMuch() {
         World w = new World();
-        TypeKernel x = w.x;
+        Counted x = w.x;
         int l = 0;
         for (int k = 0; k < 7; k++) l = x.level(UP, l, 0);
         int t = x.sort(l);
@@ -501,7 +436,7 @@ public final class PromiseTest {
         due("IMAX of sizes 9 and 7", x.type(w.pi(x.sort(l), x.sort(l6))), -6);
         due("IMAX of sizes 8 and 8", x.type(w.pi(x.sort(l7), x.sort(l7))), -6);
         World y = new World();
-        int far = chain(y, y.set, y.n, 30);
+        int far = y.chain(y.set, y.n, 30);
         int f = y.axiom(0, y.pi(y.n, y.prop));
         due("a sort by 30 steps", y.x.type(y.fn(far, y.z)), y.pi(far, y.n));
         int v = y.axiom(0, far);
@@ -516,9 +451,10 @@ public final class PromiseTest {
         largeTypes();
     }
 
+    // Promise 10: reason 5, by size.
     private static void largeTypes() {
         World w = new World();
-        TypeKernel x = w.x;
+        Counted x = w.x;
         int pred = w.axiom(0, w.pi(w.n, w.pi(w.n, w.prop)));
         int add = w.axiom(0, w.pi(w.n, w.nn));
         int ten = w.z;
@@ -533,8 +469,8 @@ public final class PromiseTest {
         int smallProof = w.app(small, ten);
         due("a LAMBDA's type", x.part(x.type(w.fn(w.n, smallProof)), 4), 3 * 49 + 8);
         int proof = w.axiom(0, type);
-        int a43 = w.app(pred, ofSize(w, 21), ofSize(w, 19)), a45 = w.app(pred, ofSize(w, 21), ofSize(w, 21));
-        int a46 = x.let(w.n, w.z, a43), a47 = w.app(pred, ofSize(w, 23), ofSize(w, 21));
+        int a43 = w.app(pred, w.ofSize(21), w.ofSize(19)), a45 = w.app(pred, w.ofSize(21), w.ofSize(21));
+        int a46 = x.let(w.n, w.z, a43), a47 = w.app(pred, w.ofSize(23), w.ofSize(21));
         int a48 = x.let(w.n, w.z, a45);
         due("a LAMBDA's type of size 199", x.part(x.type(w.fn(a45, proof)), 4), 199);
         due("a LAMBDA's type of size 200", x.part(x.type(w.fn(a46, proof)), 4), 200);
@@ -548,9 +484,10 @@ public final class PromiseTest {
         due("a LET's type, too large before", x.type(x.let(w.n, w.z, w.app(large, ten))), -6);
     }
 
+    // Promises 11 and 12.
     private static void normal() {
         World w = new World();
-        TypeKernel x = w.x;
+        Counted x = w.x;
         for (int t : new int[] {w.prop, w.n, w.s, w.v0, w.nn}) {
             due("normal of what has no step", x.normal(t), t);
             due("its steps", x.steps(t), 0);
@@ -575,21 +512,22 @@ public final class PromiseTest {
         int c = x.declare(2, x.type(w.pi(x.sort(w.p1), w.sortP)), w.pi(x.sort(w.p1), w.sortP));
         due("both levels at once", x.normal(x.name(c, w.p1, w.p0)), w.pi(w.sortP, x.sort(w.p1)));
         due("a name without value", x.normal(x.name(0, two, w.p1)), x.name(0, two, w.p1));
-        TypeKernel y = new TypeKernel();
+        Counted y = new Counted();
         int first = y.declare(0, y.sort(y.level(UP, 0, 0)), y.sort(0));
         due("the first name's value", y.normal(y.name(first, 0, 0)), y.sort(0));
         int omega = w.fn(w.n, w.app(w.v0, w.v0));
         due("no end", x.normal(w.app(omega, omega)), OUT);
         due("steps without end", x.steps(w.app(omega, omega)), OUT);
-        throwing("normal(-1)", x, INDEX, () -> x.normal(-1));
-        throwing("steps(-1)", x, INDEX, () -> x.steps(-1));
-        throwing("normal of none", x, INDEX, () -> x.normal(x.told(1)));
-        throwing("steps of none", x, INDEX, () -> x.steps(x.told(1)));
+        refused("normal(-1)", x, INDEX, () -> x.normal(-1));
+        refused("steps(-1)", x, INDEX, () -> x.steps(-1));
+        refused("normal of none", x, INDEX, () -> x.normal(x.told(1)));
+        refused("steps of none", x, INDEX, () -> x.steps(x.told(1)));
     }
 
+    // Promises 11 and 12: the next step.
     private static void normalOrder() {
         World w = new World();
-        TypeKernel x = w.x;
+        Counted x = w.x;
         int omega = w.fn(w.n, w.app(w.v0, w.v0)), out = w.app(omega, omega);
         due("a value that is not used is never met", x.normal(w.app(w.fn(w.n, w.z), out)), w.z);
         due("its steps", x.steps(w.app(w.fn(w.n, w.z), out)), 1);
@@ -607,9 +545,10 @@ public final class PromiseTest {
         due("its normal form", x.normal(w.app(k, w.z, out)), w.z);
     }
 
+    // Promise 11: what shrinks behind the last step.
     private static void eta() {
         World w = new World();
-        TypeKernel x = w.x;
+        Counted x = w.x;
         due("LAMBDA (s 0)", x.normal(w.fn(w.n, w.app(w.s, w.v0))), w.s);
         due("no step is that", x.steps(w.fn(w.n, w.app(w.s, w.v0))), 0);
         due("variables one less", x.normal(w.fn(w.n, w.app(w.v1, w.v0))), w.v0);
@@ -641,10 +580,11 @@ public final class PromiseTest {
             w.fn(w.n, w.app(w.app(w.z, w.fn(w.n, w.app(w.v0, w.v1))), w.v0)));
     }
 
+    // Promises 11, 12 and 13: 30 steps.
     private static void stepBound() {
         World w = new World();
-        TypeKernel x = w.x;
-        int c30 = chain(w, w.n, w.z, 30), c31 = w.define(0, w.n, c30);
+        Counted x = w.x;
+        int c30 = w.chain(w.n, w.z, 30), c31 = w.define(0, w.n, c30);
         due("30 steps", x.steps(c30), 30);
         due("their end", x.normal(c30), w.z);
         due("31 steps", x.steps(c31), OUT);
@@ -656,45 +596,34 @@ public final class PromiseTest {
         due("30 and 1 steps", x.steps(w.app(c30, x.let(w.n, w.z, w.v0))), OUT);
     }
 
-    /** Left-nested APPLY of so many VARIABLE 0. */
-    private static int row(World w, int count) {
-        int t = w.v0;
-        for (int k = 1; k < count; k++) t = w.app(t, w.v0);
-        return t;
-    }
-
-    private static int ofSize(World w, int size) {
-        int t = w.z;
-        for (int k = 1; k < size; k += 2) t = w.app(w.s, t);
-        return t;
-    }
-
+    // Promises 11, 12 and 13: a size of 200.
     private static void sizeBound() {
         World w = new World();
-        TypeKernel x = w.x;
-        int fits = x.let(w.n, ofSize(w, 19), row(w, 10));
+        Counted x = w.x;
+        int fits = x.let(w.n, w.ofSize(19), w.copies(10));
         int done = x.normal(fits);
         due("a normal form of size 199", x.part(done, 4), 199);
         due("its steps", x.steps(fits), 1);
-        due("one of size 201", x.normal(x.let(w.n, ofSize(w, 19), w.app(w.s, row(w, 10)))), OUT);
-        due("steps to size 201", x.steps(x.let(w.n, ofSize(w, 19), w.app(w.s, row(w, 10)))), OUT);
-        int even = x.let(w.n, ofSize(w, 21), x.let(w.n, row(w, 9), w.z));
+        due("one of size 201", x.normal(x.let(w.n, w.ofSize(19), w.app(w.s, w.copies(10)))), OUT);
+        due("steps to size 201", x.steps(x.let(w.n, w.ofSize(19), w.app(w.s, w.copies(10)))), OUT);
+        int even = x.let(w.n, w.ofSize(21), x.let(w.n, w.copies(9), w.z));
         due("size 200 between two steps", x.normal(even), w.z);
         due("its steps", x.steps(even), 2);
-        int over = x.let(w.n, ofSize(w, 21), x.let(w.n, w.app(w.s, row(w, 9)), w.z));
+        int over = x.let(w.n, w.ofSize(21), x.let(w.n, w.app(w.s, w.copies(9)), w.z));
         due("size 202 between two steps", x.normal(over), OUT);
         due("steps over size 202", x.steps(over), OUT);
         due("same, OUT by size", x.same(over, w.z), OUT);
-        int aside = w.app(ofSize(w, 27), x.let(w.n, ofSize(w, 13), row(w, 6)));
+        int aside = w.app(w.ofSize(27), x.let(w.n, w.ofSize(13), w.copies(6)));
         due("the whole term counts", x.part(x.normal(aside), 4), 1 + 27 + 83);
         due("a type of size 199 is asked for no more", x.type(done), -3);
-        int a = x.part(x.normal(x.let(w.n, ofSize(w, 19), row(w, 5))), 4);
+        int a = x.part(x.normal(x.let(w.n, w.ofSize(19), w.copies(5))), 4);
         due("size of five of them", a, 99);
     }
 
+    // Promises 11 and 12: a level of size 16.
     private static void levelBoundInSteps() {
         World w = new World();
-        TypeKernel x = w.x;
+        Counted x = w.x;
         int max = x.level(MAX, w.p0, w.p1), both = x.sort(max);
         int c = x.declare(2, x.type(both), both);
         int l = 0;
@@ -711,9 +640,10 @@ public final class PromiseTest {
         due("a name's second level of size 16", x.levelPart(x.part(x.normal(x.name(inName, eight, seven)), 3), 3), 16);
     }
 
+    // Promise 13.
     private static void same() {
         World w = new World();
-        TypeKernel x = w.x;
+        Counted x = w.x;
         due("one", x.same(w.z, w.z), 1);
         due("another", x.same(w.z, w.n), 0);
         due("by steps", x.same(w.app(w.fn(w.n, w.v0), w.z), x.let(w.n, w.z, w.v0)), 1);
@@ -732,16 +662,17 @@ public final class PromiseTest {
         due("another size", x.same(w.app(w.s, w.z), w.s), 0);
         due("another shape", x.same(w.app(w.app(w.s, w.z), w.z), w.app(w.s, w.app(w.z, w.z))), 0);
         due("LAMBDA's types count", x.same(w.fn(w.n, w.v0), w.fn(w.set, w.v0)), 0);
-        throwing("same(-1, 0)", x, INDEX, () -> x.same(-1, 0));
-        throwing("same(0, none)", x, INDEX, () -> x.same(0, x.told(1)));
+        refused("same(-1, 0)", x, INDEX, () -> x.same(-1, 0));
+        refused("same(0, none)", x, INDEX, () -> x.same(0, x.told(1)));
         int terms = x.told(1);
         x.same(w.app(w.fn(w.n, w.v0), w.app(w.z, w.v2)), w.z);
         x.steps(w.app(w.fn(w.n, w.app(w.v0, w.v0)), w.app(w.z, w.v2)));
         due("same and steps give no numbers but those asked for", x.told(1), terms + 5);
     }
 
+    // Promises 14 and 17.
     private static void declare() {
-        TypeKernel x = new TypeKernel();
+        Counted x = new Counted();
         int prop = x.sort(0), one = x.level(UP, 0, 0), set = x.sort(one), p0 = x.level(PARAMETER, 0, 0);
         due("declare", x.declare(0, prop, NONE), 0);
         due("declare the same", x.declare(0, prop, NONE), 1);
@@ -755,24 +686,25 @@ public final class PromiseTest {
         due("levels", x.told(0), 3);
         due("names", x.told(2), 4);
         for (int n : new int[] {-1, 3, Integer.MAX_VALUE}) {
-            throwing("declare with " + n + " parameters", x, ARGUMENT, () -> x.declare(n, prop, NONE));
-            throwing("declare with " + n + " parameters, of none", x, ARGUMENT, () -> x.declare(n, -1, 99));
+            refused("declare with " + n + " parameters", x, ARGUMENT, () -> x.declare(n, prop, NONE));
+            refused("declare with " + n + " parameters, of none", x, ARGUMENT, () -> x.declare(n, -1, 99));
         }
-        throwing("declare of no type", x, INDEX, () -> x.declare(0, -1, NONE));
-        throwing("declare of another's type", x, INDEX, () -> x.declare(0, 3, NONE));
-        throwing("declare of no value", x, INDEX, () -> x.declare(0, prop, -2));
-        throwing("declare of another's value", x, INDEX, () -> x.declare(0, prop, 3));
+        refused("declare of no type", x, INDEX, () -> x.declare(0, -1, NONE));
+        refused("declare of another's type", x, INDEX, () -> x.declare(0, 3, NONE));
+        refused("declare of no value", x, INDEX, () -> x.declare(0, prop, -2));
+        refused("declare of another's value", x, INDEX, () -> x.declare(0, prop, 3));
         for (int c : new int[] {-1, 4}) {
-            throwing("declared(" + c + ", 0)", x, INDEX, () -> x.declared(c, 0));
-            throwing("declared(" + c + ", 9)", x, INDEX, () -> x.declared(c, 9));
+            refused("declared(" + c + ", 0)", x, INDEX, () -> x.declared(c, 0));
+            refused("declared(" + c + ", 9)", x, INDEX, () -> x.declared(c, 9));
         }
-        throwing("declared(0, 3)", x, ARGUMENT, () -> x.declared(0, 3));
-        throwing("declared(0, -1)", x, ARGUMENT, () -> x.declared(0, -1));
+        refused("declared(0, 3)", x, ARGUMENT, () -> x.declared(0, 3));
+        refused("declared(0, -1)", x, ARGUMENT, () -> x.declared(0, -1));
     }
 
+    // Promise 14: reasons.
     private static void declareReasons() {
         World w = new World();
-        TypeKernel x = w.x;
+        Counted x = w.x;
         int names = x.told(2), p2 = x.sort(x.level(PARAMETER, 2, 0)), sortP1 = x.sort(w.p1);
         due("8: parameter 0 of none", x.declare(0, w.sortP, NONE), -9);
         due("8: parameter 1 of one", x.declare(1, sortP1, NONE), -9);
@@ -802,30 +734,32 @@ public final class PromiseTest {
             x.sort(x.level(MAX, w.p1, w.p0))), names + 1);
         due("a value with a LET", x.declare(0, w.n, x.let(w.n, w.z, w.app(w.s, w.v0))), names + 2);
         World y = new World();
-        int far = chain(y, y.set, y.n, 30), farther = y.define(0, y.set, far);
+        int far = y.chain(y.set, y.n, 30), farther = y.define(0, y.set, far);
         due("5: a type that is needed is OUT", y.x.declare(0, farther, y.z), -6);
         due("it is not needed without a value", y.x.declare(0, farther, NONE), 34);
         due("5: the value's type is OUT", y.x.declare(0, y.n, y.x.name(34, 0, 0)), -6);
         due("30 steps for a type", y.x.declare(0, far, y.z), 35);
     }
 
+    // Promises 14 and 17: 40 names.
     private static void declareBounds() {
-        TypeKernel x = new TypeKernel();
+        Counted x = new Counted();
         int prop = x.sort(0);
         for (int c = 0; c < 40; c++) due("declare", x.declare(c % 3, prop, NONE), c);
-        throwing("a 41st name", x, TOO_MANY, () -> x.declare(0, prop, NONE));
-        throwing("a 41st name that has a reason", x, TOO_MANY, () -> x.declare(0, prop, prop));
-        throwing("a 41st name of no type", x, INDEX, () -> x.declare(0, 9, NONE));
-        throwing("a 41st name of no value", x, INDEX, () -> x.declare(0, prop, 9));
-        throwing("a 41st name of 3 parameters", x, ARGUMENT, () -> x.declare(3, 9, NONE));
+        refused("a 41st name", x, TOO_MANY, () -> x.declare(0, prop, NONE));
+        refused("a 41st name that has a reason", x, TOO_MANY, () -> x.declare(0, prop, prop));
+        refused("a 41st name of no type", x, INDEX, () -> x.declare(0, 9, NONE));
+        refused("a 41st name of no value", x, INDEX, () -> x.declare(0, prop, 9));
+        refused("a 41st name of 3 parameters", x, ARGUMENT, () -> x.declare(3, 9, NONE));
         due("the last name", x.part(x.name(39, 0, 0), 1), 39);
         due("its parameters", x.declared(39, 0), 0);
         due("another's", x.declared(38, 0), 2);
     }
 
+    // Promise 15.
     private static void parts() {
         World w = new World();
-        TypeKernel x = w.x;
+        Counted x = w.x;
         int t = x.let(w.nn, w.fn(w.n, w.v1), w.app(w.v2, w.pi(w.v0, x.variable(5))));
         due("kind", x.part(t, 0), LET);
         due("type", x.part(t, 1), w.nn);
@@ -836,11 +770,12 @@ public final class PromiseTest {
         int raised = x.normal(x.let(w.n, x.variable(59), w.fn(w.n, w.v1)));
         due("a variable beyond 59 in an answer", x.part(x.part(raised, 2), 1), 60);
         due("binders that it wants", x.part(raised, 5), 60);
-        throwing("the same, asked for", x, ARGUMENT, () -> x.variable(60));
+        refused("the same, asked for", x, ARGUMENT, () -> x.variable(60));
     }
 
+    // Promises 10 and 11: numbers.
     private static void numbersOfAnswers() {
-        TypeKernel x = new TypeKernel();
+        Counted x = new Counted();
         int p0 = x.level(PARAMETER, 0, 0), p1 = x.level(PARAMETER, 1, 0);
         int s0 = x.sort(p0), s1 = x.sort(p1), v0 = x.variable(0);
         int t = x.term(PI, s0, x.term(PI, s1, x.sort(0)));
@@ -878,9 +813,10 @@ public final class PromiseTest {
         due("then its second", x.part(unfolded, 3), levels + 1);
     }
 
+    // Promises 2 and 10: 300 levels.
     private static void fullLevels() {
         World w = new World();
-        TypeKernel x = w.x;
+        Counted x = w.x;
         int l = 0;
         for (int k = 0; k < 6; k++) l = x.level(UP, l, 0);
         int deep = x.sort(l), proof = w.pi(deep, w.prop);
@@ -894,34 +830,26 @@ public final class PromiseTest {
             }
         }
         due("levels", x.told(0), 299);
-        throwing("an answer with two levels more, where one has room", x, TOO_MANY, () -> x.type(proof));
+        refused("an answer with two levels more, where one has room", x, TOO_MANY, () -> x.type(proof));
         due("an answer with one", x.part(x.type(deep), 1), 299);
         due("levels", x.told(0), 300);
-        throwing("an answer's level", x, TOO_MANY, () -> x.type(proof));
-        throwing("one more level", x, TOO_MANY, () -> x.level(IMAX, w.one, 0));
+        refused("an answer's level", x, TOO_MANY, () -> x.type(proof));
+        refused("one more level", x, TOO_MANY, () -> x.level(IMAX, w.one, 0));
         due("a level that is there", x.level(UP, 0, 0), w.one);
         due("an answer that is there", x.type(w.z), w.n);
         due("a reason", x.type(w.v0), -2);
         due("steps", x.normal(w.app(w.fn(w.n, w.v0), w.z)), w.z);
     }
 
-    /** LET z v (v (LAMBDA z (v (LAMBDA z ..)))), where v is head (head (.. (VARIABLE 0))): each copy is new. */
-    private static int copies(World w, int head) {
-        int v = w.v0;
-        for (int k = 0; k < 9; k++) v = w.app(head, v);
-        int body = w.app(w.x.variable(7), w.set);
-        for (int k = 6; k >= 0; k--) body = w.app(w.x.variable(k), w.fn(w.z, body));
-        return w.x.let(w.z, v, body);
-    }
-
+    // Promises 5 to 11: 1500 terms.
     private static void fullTerms() {
         World w = new World();
-        TypeKernel x = w.x;
+        Counted x = w.x;
         boolean full = false;
         for (int head : new int[] {w.z, w.s, w.n, w.set}) {
-            int copies = copies(w, head);
+            int many = w.manyTerms(head);
             for (int i = 10; i < 60 && !full; i += 8) {
-                int t = x.let(w.z, x.variable(i), copies);
+                int t = x.let(w.z, x.variable(i), many);
                 int levels = x.told(0), before = x.told(1);
                 try {
                     x.normal(t);
@@ -939,29 +867,30 @@ public final class PromiseTest {
         for (int k = 0; k < 144 && x.told(1) < 1500; k++) last = w.pi(k % 12, k / 12);
         int end = last;
         due("terms", x.told(1), 1500);
-        throwing("one more term", x, TOO_MANY, () -> w.pi(end, w.set));
-        throwing("one more LET", x, TOO_MANY, () -> x.let(end, end, w.set));
-        throwing("one more SORT", x, TOO_MANY, () -> x.sort(w.p1));
-        throwing("one more VARIABLE", x, TOO_MANY, () -> x.variable(9));
-        throwing("one more NAME", x, TOO_MANY, () -> x.name(0, w.p1, w.p1));
-        throwing("one more type", x, TOO_MANY, () -> x.type(w.set));
+        refused("one more term", x, TOO_MANY, () -> w.pi(end, w.set));
+        refused("one more LET", x, TOO_MANY, () -> x.let(end, end, w.set));
+        refused("one more SORT", x, TOO_MANY, () -> x.sort(w.p1));
+        refused("one more VARIABLE", x, TOO_MANY, () -> x.variable(9));
+        refused("one more NAME", x, TOO_MANY, () -> x.name(0, w.p1, w.p1));
+        refused("one more type", x, TOO_MANY, () -> x.type(w.set));
         due("a term that is there", w.pi(w.n, w.n), w.nn);
         due("a type that is there", x.type(w.z), w.n);
         due("a normal form that is there", x.normal(end), end);
     }
 
+    // Promise 19.
     private static void clear() {
         World w = new World();
-        TypeKernel x = w.x;
+        Counted x = w.x;
         x.type(w.nn);
         x.clear();
         due("levels", x.told(0), 1);
         due("terms", x.told(1), 0);
         due("names", x.told(2), 0);
         due("level 0", x.levelPart(0, 0), ZERO);
-        throwing("level 1", x, INDEX, () -> x.levelPart(1, 0));
-        throwing("term 0", x, INDEX, () -> x.part(0, 0));
-        throwing("name 0", x, INDEX, () -> x.declared(0, 0));
+        refused("level 1", x, INDEX, () -> x.levelPart(1, 0));
+        refused("term 0", x, INDEX, () -> x.part(0, 0));
+        refused("name 0", x, INDEX, () -> x.declared(0, 0));
         due("the first level", x.level(PARAMETER, 2, 0), 1);
         due("the first term", x.variable(7), 0);
         due("a sort", x.sort(1), 1);
@@ -975,10 +904,10 @@ public final class PromiseTest {
         due("levels, twice", x.told(0), 1);
     }
 
-    /** As deep as terms can be: 99 APPLYs one in another, as an answer. */
+    // Promises 10 and 11: as deep as terms can be, 99 APPLYs one in another, as an answer.
     private static void deepTerms() {
         World w = new World();
-        TypeKernel x = w.x;
+        Counted x = w.x;
         int deep = w.z, asked = w.z;
         for (int more : new int[] {28, 28, 28, 15}) {
             asked = w.define(0, w.n, deep);
