@@ -314,7 +314,9 @@ public final class DeclareBoundaryTest extends Bench {
     // Promise 17: "its parameters (what = 0), the numbers of its type (1) and value (2; NONE)", and no other what.
     private static void declaredBounds() {
         Counted x = new Counted();
-        for (int what : new int[] {-1, 0, 2, 3}) refused("declared(0, " + what + "), where there is none", x, INDEX, () -> x.declared(0, what));
+        for (int what : new int[] {-1, 0, 2, 3}) {
+            refused("declared(0, " + what + "), where there is none", x, INDEX, () -> x.declared(0, what));
+        }
         x.sort(0);
         x.declare(0, 0, NONE);
         x.declare(2, 0, NONE);

@@ -6,6 +6,7 @@ public final class NormalBoundaryTest extends Bench {
         eachStep();
         nameWithItsLevels();
         withValue();
+        behindAStep();
         openAndUntyped();
         termBeforeItsParts();
         partsInTheirOrder();
@@ -108,6 +109,14 @@ public final class NormalBoundaryTest extends Bench {
             w.pi(x.sort(two), x.sort(w.up(w.max(w.one, two), 1))), 2);
         int none = x.declare(0, w.n, w.z);
         dueNormal("a NAME of no parameters", w, x.name(none, w.p1, p2), w.z, 1);
+        int far = x.sort(w.up(w.p0, 7));
+        for (int k = 0; k < 6; k++) far = x.type(far);
+        int e = x.declare(1, x.type(far), far), made = x.normal(x.name(e, w.p1, 0));
+        int l = x.part(made, 1);
+        for (int k = 0; k < 13; k++) l = x.levelPart(l, 1);
+        due("a parameter as the last mark of a level of size 14", l, w.p1);
+        due("a level of size 3 for that", x.steps(x.name(e, two, 0)), 1);
+        due("a level of size 4 for that", x.steps(x.name(e, w.up(two, 1), 0)), OUT);
     }
 
     // Promise 11: "b WITH v: in b variable 0 is v (with the binders around it counted), and those farther out are one less."
@@ -133,6 +142,33 @@ public final class NormalBoundaryTest extends Bench {
             w.pi(n, w.app(w.v0, w.v0)), 1);
         int far = x.normal(x.let(n, v59, w.fn(n, w.fn(n, w.v2))));
         due("VARIABLE 59 below two binders", x.part(x.part(x.part(far, 2), 2), 1), 61);
+        int own = w.pi(n, w.v0);
+        dueNormal("v with a binder of its own, in a LET below", w, x.let(n, own, x.let(n, w.z, w.app(w.s, w.app(w.v1, w.v0)))),
+            w.app(w.s, w.app(own, w.z)), 2);
+        dueNormal("a binder of b, in a LET below", w, x.let(n, w.v0, x.let(n, w.v0, w.pi(w.v1, w.app(w.v2, w.v1)))),
+            w.pi(w.v0, w.app(w.v1, w.v1)), 2);
+        dueNormal("a LET below a binder, and another in it", w, w.pi(n, x.let(n, w.v0, x.let(n, w.v1, w.pi(w.v0, w.app(w.v1, w.v2))))),
+            w.pi(n, w.pi(w.v0, w.app(w.v1, w.v1))), 2);
+        dueNormal("a step in the body of a step", w, w.app(w.fn(n, w.app(w.fn(n, w.pi(w.v0, w.app(w.v1, w.v2))), w.v1)), w.s),
+            w.pi(w.v0, w.app(w.v1, w.s)), 2);
+    }
+
+    // Promise 11: a step changes the term that it is of, and what stands behind that stays as it is.
+    private static void behindAStep() {
+        World w = new World();
+        Counted x = w.x;
+        int small = x.let(w.n, w.z, w.v0), large = x.let(w.n, w.ofSize(9), w.v0), name = x.name(0, w.p0, w.p1);
+        for (int kind = PI; kind <= APPLY; kind++) {
+            dueNormal("a SORT, kind " + kind, w, x.term(kind, small, w.sortP), x.term(kind, w.z, w.sortP), 1);
+            dueNormal("a NAME with two levels, kind " + kind, w, x.term(kind, small, name), x.term(kind, w.z, name), 1);
+            dueNormal("a SORT behind a larger one, kind " + kind, w, x.term(kind, large, w.sortP), x.term(kind, w.ofSize(9), w.sortP), 1);
+        }
+        int c = w.define(0, w.n, w.ofSize(5));
+        int tail = w.pi(w.v1, w.app(w.pi(w.v0, w.v1), name));
+        dueNormal("a tail that moves on", w, w.app(c, tail), w.app(w.ofSize(5), tail), 1);
+        dueNormal("a tail that moves back", w, w.app(x.let(w.n, w.ofSize(5), w.z), tail), w.app(w.z, tail), 1);
+        dueNormal("a tail that moves, and a step in it", w, w.pi(c, w.pi(w.n, x.let(w.n, w.v1, w.pi(w.v1, w.app(w.v1, w.v2))))),
+            w.pi(w.ofSize(5), w.pi(w.n, w.pi(w.v0, w.app(w.v2, w.v1)))), 2);
     }
 
     // Promise 11: "The normal form of a term (closed or not, with a type or not)".
@@ -212,6 +248,13 @@ public final class NormalBoundaryTest extends Bench {
             w.fn(n, w.app(w.pi(w.v0, w.z), w.v0)), w.fn(n, w.app(w.pi(n, w.v1), w.v0)), w.fn(n, w.app(w.s, w.app(w.s, w.v0))),
             w.fn(n, w.app(w.app(w.z, w.fn(n, w.app(w.v0, w.v1))), w.v0)), w.fn(n, w.pi(n, w.app(w.s, w.v0)))};
         for (int t : all) unchanged("term " + t, w.x, t, () -> w.x.normal(t));
+        int kept = w.fn(n, w.app(w.app(w.v1, w.fn(n, w.app(w.z, w.v1))), w.v0));
+        dueNormal("f has this variable by a step", w,
+            w.fn(n, w.app(w.app(w.v1, w.fn(n, w.x.let(n, w.z, w.app(w.z, w.v2)))), w.v0)), kept, 1);
+        dueNormal("f has this variable behind a step", w,
+            w.fn(w.x.let(w.set, n, w.v0), w.app(w.app(w.v1, w.fn(n, w.app(w.z, w.v1))), w.v0)), kept, 1);
+        dueNormal("f has not this variable, by a step", w, w.fn(n, w.app(w.app(w.v1, w.fn(n, w.x.let(n, w.v1, w.app(w.v1, w.z)))), w.v0)),
+            w.app(w.v0, w.fn(n, w.app(w.v0, w.z))), 1);
     }
 
     // Promise 11: "from within outward".

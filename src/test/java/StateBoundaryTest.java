@@ -22,6 +22,7 @@ public final class StateBoundaryTest extends Bench {
         lastLevelOfAnAnswer();
         noLevelForAnAnswer();
         levelsOfARefusedAnswer();
+        eachPlaceOfALevel();
         lastTermOfAnAnswer();
         noTermForAnAnswer();
         termsOfARefusedAnswer();
@@ -297,6 +298,34 @@ public final class StateBoundaryTest extends Bench {
         refused("a normal form with two levels more, where there is no room", x, TOO_MANY, () -> x.normal(t));
         refused("a normal form of a NAME", x, TOO_MANY, () -> x.normal(name));
         due("a normal form whose levels are there", x.normal(x.name(c, w.p0, w.p1)), value);
+    }
+
+    // Promises 10 and 11: "UnsupportedOperation: .. (300 levels": wherever in an answer the level is that has no room.
+    private static void eachPlaceOfALevel() {
+        World w = withLevels(296);
+        Counted x = w.x;
+        int up = w.up(w.p0, 1), sort = x.sort(up), type = x.type(sort);
+        int c = x.declare(1, type, sort);
+        int first = x.declare(2, w.set, x.name(0, up, w.p1)), second = x.declare(2, w.set, x.name(0, w.p1, up));
+        int let = x.declare(1, x.let(w.set, w.n, w.pi(w.v0, sort)), NONE);
+        int letA = x.declare(1, x.let(type, sort, w.n), NONE);
+        w.up(50, 1);
+        w.up(51, 1);
+        due("levels", x.told(0), 300);
+        int name = x.name(c, 40, 0);
+        refused("a SORT's level", x, TOO_MANY, () -> x.normal(name));
+        int inFirst = x.name(first, 40, 0), inSecond = x.name(second, 40, 0);
+        refused("a NAME's first level", x, TOO_MANY, () -> x.normal(inFirst));
+        refused("a NAME's second level", x, TOO_MANY, () -> x.normal(inSecond));
+        for (int kind = PI; kind <= APPLY; kind++) {
+            int a = x.term(kind, name, w.n), b = x.term(kind, w.n, name);
+            refused("in the first part, kind " + kind, x, TOO_MANY, () -> x.normal(a));
+            refused("in the second part, kind " + kind, x, TOO_MANY, () -> x.normal(b));
+        }
+        int inB = x.name(let, 40, 0), inA = x.name(letA, 40, 0);
+        refused("in b of a LET", x, TOO_MANY, () -> x.type(inB));
+        refused("in A and v of a LET", x, TOO_MANY, () -> x.type(inA));
+        due("a level that is there, in b of a LET", x.part(x.type(x.name(let, w.p0, 0)), 0), LET);
     }
 
     // Promises 10 and 11: "UnsupportedOperation: .. 1500 terms": the last that an answer may have.

@@ -249,11 +249,12 @@ public final class TermBoundaryTest extends Bench {
     private static void answersHaveBoundsOfTheirOwn() {
         World w = new World();
         Counted x = w.x;
-        due("a normal form of size 61", x.part(x.normal(x.let(w.n, w.ofSize(15), w.app(w.times(w.s, 7, w.v0), w.times(w.s, 8, w.v0)))), 4), 61);
+        int both = w.app(w.times(w.s, 7, w.v0), w.times(w.s, 8, w.v0));
+        due("a normal form of size 61", x.part(x.normal(x.let(w.n, w.ofSize(15), both)), 4), 61);
         due("a normal form of size 199", x.part(x.normal(x.let(w.n, w.ofSize(19), w.copies(10))), 4), 199);
-        int pred = w.axiom(0, w.pi(w.n, w.pi(w.n, w.prop))), both = w.axiom(0, w.pi(w.n, w.app(pred, w.v0, w.v0)));
-        due("a type of size 61", x.part(x.type(w.app(both, w.ofSize(29))), 4), 61);
-        due("a type of size 117", x.part(x.type(w.app(both, w.ofSize(57))), 4), 117);
+        int pred = w.axiom(0, w.pi(w.n, w.pi(w.n, w.prop))), two = w.axiom(0, w.pi(w.n, w.app(pred, w.v0, w.v0)));
+        due("a type of size 61", x.part(x.type(w.app(two, w.ofSize(29))), 4), 61);
+        due("a type of size 117", x.part(x.type(w.app(two, w.ofSize(57))), 4), 117);
         int nine = x.part(x.type(x.sort(w.up(0, 7))), 1);
         due("a level of size 9", x.levelPart(nine, 3), 9);
         due("a level of size 10", x.levelPart(x.part(x.type(x.sort(nine)), 1), 3), 10);

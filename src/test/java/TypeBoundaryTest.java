@@ -10,6 +10,7 @@ public final class TypeBoundaryTest extends Bench {
         toBeOfSort();
         lambdaSizes();
         applyNoFunction();
+        applyBelowBinders();
         applyWrongArgument();
         applySizes();
         letWrongValue();
@@ -143,6 +144,13 @@ public final class TypeBoundaryTest extends Bench {
         int one = x.declare(1, w.sortP, NONE), sixteen = x.part(x.type(x.name(c, seven, eight)), 1);
         due("a level of size 16 for its parameter", x.part(x.type(x.name(one, sixteen, 0)), 1), sixteen);
         due("a level that is not used", x.part(x.type(x.name(one, 0, sixteen)), 1), 0);
+        int far = x.sort(w.up(w.p0, 7));
+        for (int k = 0; k < 7; k++) far = x.type(far);
+        int last = x.declare(1, far, NONE), l = x.part(x.type(x.name(last, w.p1, 0)), 1);
+        for (int k = 0; k < 14; k++) l = x.levelPart(l, 1);
+        due("a parameter as the last mark of a level of size 15", l, w.p1);
+        dueLevelSize("a level of size 2 for that", w, x.name(last, w.one, 0), 16);
+        dueReason("a level of size 3 for that", w, x.name(last, w.up(0, 2), 0), 5);
     }
 
     // Promise 10: "PI A B: SORT (IMAX p q)"; "5: .. or a level in it one above 16".
@@ -209,6 +217,24 @@ public final class TypeBoundaryTest extends Bench {
         int fn = w.define(0, x.type(w.nn), w.nn), g = w.axiom(0, fn);
         due("by a step", x.type(w.app(g, w.z)), w.n);
         dueReason("one argument too many", w, w.app(w.s, w.z, w.z), 2);
+    }
+
+    // Promise 10: "APPLY f a: .. B WITH a", where VARIABLE 0 is below binders of B, and a has variables.
+    private static void applyBelowBinders() {
+        World w = new World();
+        Counted x = w.x;
+        int id = w.fn(w.set, w.fn(w.v0, w.v0)), v3 = x.variable(3);
+        due("a LAMBDA in a LAMBDA", x.type(w.app(id, w.n)), w.nn);
+        due("two binders below", x.type(w.app(w.fn(w.set, w.fn(w.v0, w.fn(w.v1, w.v1))), w.n)), w.pi(w.n, w.pi(w.n, w.n)));
+        due("a with a variable", x.type(w.fn(w.set, w.app(id, w.v0))), w.pi(w.set, w.pi(w.v0, w.v1)));
+        due("a with a variable, two binders below", x.type(w.fn(w.set, w.app(w.fn(w.set, w.fn(w.v0, w.fn(w.v1, w.v1))), w.v0))),
+            w.pi(w.set, w.pi(w.v0, w.pi(w.v1, w.v2))));
+        due("B with a variable farther out", x.type(w.fn(w.set, w.fn(w.v0, w.app(w.fn(w.n, w.fn(w.v2, w.v0)), w.z)))),
+            w.pi(w.set, w.pi(w.v0, w.pi(w.v1, w.v2))));
+        due("a LET's T below binders", x.type(w.fn(w.set, x.let(w.set, w.v0, w.fn(w.v0, w.fn(w.v1, w.v1))))),
+            w.pi(w.set, w.pi(w.v0, w.pi(w.v1, w.v2))));
+        due("T with a variable farther out", x.type(w.fn(w.set, w.fn(w.set, x.let(w.n, w.z, w.fn(w.v1, w.fn(v3, w.v0)))))),
+            w.pi(w.set, w.pi(w.set, w.pi(w.v0, w.pi(w.v2, v3)))));
     }
 
     // Promise 10: "a is typed, and the normal form of its type is the SAME as A (3: another one): B WITH a."
