@@ -4,7 +4,7 @@ import java.util.TreeMap;
 /**
  * Promises 1 to 19: runs of calls that are drawn with fixed seeds, half of them aimed at terms that have a type, asked
  * of TypeKernel and of Reference alike: every answer and every exception has to be the same, and in
- * the end all that can be asked about the state.
+ * the end all that can be asked about the state. In one of ten runs there is little room left.
  */
 public final class AgainstReferenceTest {
     private static final int RUNS = 1200, CALLS = 420;
@@ -31,7 +31,8 @@ public final class AgainstReferenceTest {
         if (args.length > 0) System.out.println(seen);
         for (String must : new String[] {"type -2", "type -3", "type -4", "type -5", "type -6", "type -7", "type +",
             "declare -2", "declare -3", "declare -4", "declare -5", "declare -6", "declare -7", "declare -8", "declare -9",
-            "declare +", "normal -6", "normal +", "same -6", "same 0", "same 1"}) {
+            "declare +", "normal -6", "normal +", "same -6", "same 0", "same 1", "type UnsupportedOperationException",
+            "normal UnsupportedOperationException", "declare UnsupportedOperationException"}) {
             if (!seen.containsKey(must)) {
                 failed++;
                 System.out.println("the runs never met " + must);
@@ -42,10 +43,36 @@ public final class AgainstReferenceTest {
     }
 
     private int go() {
-        if (run % 3 != 0) prelude();
-        for (int n = 0; n < CALLS && wrong == 0; n++) draw();
+        boolean crowded = run % 10 == 4;
+        if (run % 3 != 0 || crowded) prelude();
+        if (crowded) crowd(run / 10 % 3);
+        for (int n = 0; n < (crowded ? CALLS / 3 : CALLS) && wrong == 0; n++) draw();
         compareState();
         return wrong;
+    }
+
+    /** Leaves little room for levels, terms or names. */
+    private void crowd(int of) {
+        int room = below(8);
+        if (of == 0) {
+            for (int k = 0; k < 288 && kernel.told(0) < 299 - room; k++) call(0, 2 + k % 2, k / 2 % 4, k / 8);
+        } else if (of == 1) {
+            int many = manyTerms();
+            for (int k = 0; k < 40 && kernel.told(1) < 1400; k++) {
+                call(9, call(7, k % 4, call(6, 5, k % 4, call(4, 10 + k / 4 * 8 % 50)), many));
+            }
+            for (int k = 0; k < 144 && kernel.told(1) < 1499 - room; k++) call(6, 3, k % 12, k / 12);
+        } else {
+            while (kernel.told(2) < 40 - room) call(12, 0, 0, -1);
+        }
+    }
+
+    /** A LET whose normal form has some 90 parts that are new for each value of VARIABLE 0. */
+    private int manyTerms() {
+        int v = call(4, 0), body = call(6, 5, call(4, 7), 0);
+        for (int k = 0; k < 9; k++) v = call(6, 5, 0, v);
+        for (int k = 6; k >= 0; k--) body = call(6, 5, call(4, k), call(6, 4, 0, body));
+        return call(7, 0, v, body);
     }
 
     private static int ask(Reference x, int method, int[] a) {
