@@ -1,17 +1,19 @@
+import java.util.Arrays;
 import java.util.Random;
 import java.util.TreeMap;
 
 /**
  * Promises 1 to 19: runs of calls that are drawn with fixed seeds, half of them aimed at terms that have a type, asked
  * of TypeKernel and of Reference alike: every answer and every exception has to be the same, and in
- * the end all that can be asked about the state. In one of ten runs there is little room left.
+ * the end all that is told of levels, terms and names. In one of ten runs there is little room left.
  */
 public final class AgainstReferenceTest {
-    private static final int RUNS = 1200, CALLS = 420;
+    // The calls that are kept free are those that the state is read with in the end; a draw makes at most 40.
+    private static final int RUNS = 1600, KEPT_FREE = 120, A_DRAW = 40;
 
     private final Random random;
     private final int run;
-    private final TypeKernel kernel = new TypeKernel();
+    private final Counted kernel = new Counted();
     private final Reference reference = new Reference();
     private final TreeMap<String, Integer> seen;
     private int wrong;
@@ -46,8 +48,11 @@ public final class AgainstReferenceTest {
         boolean crowded = run % 10 == 4;
         if (run % 3 != 0 || crowded) prelude();
         if (crowded) crowd(run / 10 % 3);
-        for (int n = 0; n < (crowded ? CALLS / 3 : CALLS) && wrong == 0; n++) draw();
-        compareState();
+        while (wrong == 0 && kernel.callsLeft() >= KEPT_FREE + A_DRAW) draw();
+        if (wrong == 0 && !Arrays.equals(kernel.state(), stateOf(reference))) {
+            wrong++;
+            System.out.println("run " + run + ": what is told of levels, terms and names is not what is due");
+        }
         return wrong;
     }
 
@@ -55,15 +60,15 @@ public final class AgainstReferenceTest {
     private void crowd(int of) {
         int room = below(8);
         if (of == 0) {
-            for (int k = 0; k < 288 && kernel.told(0) < 299 - room; k++) call(0, 2 + k % 2, k / 2 % 4, k / 8);
+            for (int k = 0; k < 288 && reference.told(0) < 299 - room; k++) call(0, 2 + k % 2, k / 2 % 4, k / 8);
         } else if (of == 1) {
             int many = manyTerms();
-            for (int k = 0; k < 40 && kernel.told(1) < 1400; k++) {
+            for (int k = 0; k < 40 && reference.told(1) < 1400; k++) {
                 call(9, call(7, k % 4, call(6, 5, k % 4, call(4, 10 + k / 4 * 8 % 50)), many));
             }
-            for (int k = 0; k < 144 && kernel.told(1) < 1499 - room; k++) call(6, 3, k % 12, k / 12);
+            for (int k = 0; k < 144 && reference.told(1) < 1499 - room; k++) call(6, 3, k % 12, k / 12);
         } else {
-            while (kernel.told(2) < 40 - room) call(12, 0, 0, -1);
+            while (reference.told(2) < 40 - room) call(12, 0, 0, -1);
         }
     }
 
@@ -103,7 +108,7 @@ public final class AgainstReferenceTest {
         String got, due;
         int answer = Reference.NONE;
         try {
-            got = String.valueOf(Counted.answer(kernel, method, arguments));
+            got = String.valueOf(kernel.ask(method, arguments));
         } catch (RuntimeException e) {
             got = e.getClass().getSimpleName();
         }
@@ -115,7 +120,7 @@ public final class AgainstReferenceTest {
         }
         if (!got.equals(due)) {
             wrong++;
-            System.out.println("run " + run + ": " + Counted.METHODS[method] + java.util.Arrays.toString(arguments)
+            System.out.println("run " + run + ": " + Counted.METHODS[method] + Arrays.toString(arguments)
                 + " answered " + got + ", due is " + due);
         }
         boolean number = method == 8 || method == 9 || method == 12;
@@ -129,12 +134,12 @@ public final class AgainstReferenceTest {
     }
 
     private int anyLevel() {
-        return below(kernel.told(0));
+        return below(reference.told(0));
     }
 
     /** Any term, late ones oftener. */
     private int anyTerm() {
-        int n = kernel.told(1);
+        int n = reference.told(1);
         return random.nextBoolean() ? below(n) : n - 1 - below(Math.min(n, 12));
     }
 
@@ -183,17 +188,17 @@ public final class AgainstReferenceTest {
 
     private void drawLeaf() {
         int what = below(10);
-        if (what < 2 || kernel.told(2) == 0) {
+        if (what < 2 || reference.told(2) == 0) {
             call(3, anyLevel());
         } else if (what < 5) {
             call(4, below(10) == 0 ? below(60) : below(4));
         } else {
-            call(5, below(kernel.told(2)), anyLevel(), anyLevel());
+            call(5, below(reference.told(2)), anyLevel(), anyLevel());
         }
     }
 
     private void drawTerm() {
-        if (kernel.told(1) == 0) return;
+        if (reference.told(1) == 0) return;
         boolean aimed = below(10) < 7;
         int[] parts = {0, 0, 0};
         int kind = 0;
@@ -210,7 +215,7 @@ public final class AgainstReferenceTest {
     }
 
     private void drawDeclaration() {
-        if (kernel.told(1) == 0) return;
+        if (reference.told(1) == 0) return;
         int v = anyTerm();
         int what = below(4);
         if (what == 0) {
@@ -239,7 +244,7 @@ public final class AgainstReferenceTest {
 
     /** Copies of copies, and levels on levels: what comes to the bounds of sizes. */
     private void drawGrowth() {
-        if (kernel.told(1) == 0) return;
+        if (reference.told(1) == 0) return;
         if (below(3) == 0) {
             int t = call(3, anyLevel());
             for (int k = 0; k < 3 && t >= 0; k++) t = call(8, below(2) == 0 ? t : Math.max(0, call(6, 3, t, anyTerm())));
@@ -267,16 +272,17 @@ public final class AgainstReferenceTest {
         call(method, arguments);
     }
 
-    private void compareState() {
-        for (int what = -1; what < 4; what++) call(16, what);
-        for (int l = 0; l < reference.told(0) && wrong == 0; l++) {
-            for (int what = -1; what < 5; what++) call(14, l, what);
-        }
-        for (int t = 0; t < reference.told(1) && wrong == 0; t++) {
-            for (int what = -1; what < 7; what++) call(13, t, what);
-        }
-        for (int c = 0; c < reference.told(2) && wrong == 0; c++) {
-            for (int what = -1; what < 4; what++) call(15, c, what);
-        }
+    /** The same that Counted.state reads, in its order. */
+    private static int[] stateOf(Reference x) {
+        int levels = x.told(0), terms = x.told(1), names = x.told(2);
+        int[] state = new int[3 + 4 * levels + 6 * terms + 3 * names];
+        int n = 0;
+        state[n++] = levels;
+        state[n++] = terms;
+        state[n++] = names;
+        for (int l = 0; l < levels; l++) for (int what = 0; what < 4; what++) state[n++] = x.levelPart(l, what);
+        for (int t = 0; t < terms; t++) for (int what = 0; what < 6; what++) state[n++] = x.part(t, what);
+        for (int c = 0; c < names; c++) for (int what = 0; what < 3; what++) state[n++] = x.declared(c, what);
+        return state;
     }
 }

@@ -41,7 +41,8 @@ final class Counted {
         }
     }
 
-    private int ask(int method, int... a) {
+    /** Calls a method that is told by its place among METHODS. */
+    int ask(int method, int... a) {
         if (calls.size() >= MOST_CALLS) throw new IllegalStateException("a test calls one object more than 512 times");
         int[] call = new int[1 + a.length];
         call[0] = method;
